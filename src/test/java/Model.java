@@ -6,8 +6,6 @@ import java.util.List;
  * out anew whenever it is asked for.
  */
 final class Model {
-    private static final String EXPRESSION_PARTS = "ivaEEEEEEEEEEEE";
-
     private record Expression(int kind, int x, int y, int z) {
     }
 
@@ -97,8 +95,7 @@ final class Model {
         if (!isFrom(kind, 0, 14)) {
             return -1;
         }
-        char first = EXPRESSION_PARTS.charAt(kind);
-        if (first == 'v' && !isFrom(x, 0, 7) || first == 'a' && !isFrom(x, 0, 1)) {
+        if (kind == 1 && !isFrom(x, 0, 7) || kind == 2 && !isFrom(x, 0, 1)) {
             return -1;
         }
         Expression made = new Expression(kind, x, y, z);

@@ -189,13 +189,12 @@ public final class PromisesTest {
         for (int kind = 2; kind <= 14; kind++) {
             CHECKS.due("no part is there yet", x.express(kind, 0, 0, 0), BAD);
         }
-        CHECKS.due("kind -1", x.express(-1, 0, 0, 0), BAD);
-        CHECKS.due("kind 15", x.express(15, 0, 0, 0), BAD);
-        CHECKS.due("kind MIN", x.express(MIN, 0, 0, 0), BAD);
-        CHECKS.due("kind MAX", x.express(MAX, 0, 0, 0), BAD);
         int next = 0;
         for (int any : new int[] {0, -1, MIN, MAX}) {
             CHECKS.due("any int", x.express(0, any, MIN, MAX), next++);
+        }
+        for (int wrong : new int[] {-1, 15, MIN, MAX}) {
+            CHECKS.due("kind " + wrong, x.express(wrong, 0, 0, 0), BAD);
         }
         for (int wrong : new int[] {-1, 8, MIN, MAX}) {
             CHECKS.due("variable " + wrong, x.express(1, wrong, 0, 0), BAD);
@@ -542,6 +541,17 @@ public final class PromisesTest {
         dueSafe("secret to public, labelled secret", 2, false);
         x.label(0, true);
         dueSafe("all are secret", 2, true);
+        dueSafe("all are secret, hidden", 1, true);
+        x.label(0, false);
+        dueSafe("hidden, to public again", 1, false);
+
+        begin("6 safe, the first statement after label");
+        int first = x.state(6, variable(0), 0, 0);
+        dueSafe("public", first, true);
+        x.label(0, true);
+        dueSafe("secret", first, false);
+        x.label(0, false);
+        dueSafe("public again", first, true);
     }
 
     private static void safeStore() {
