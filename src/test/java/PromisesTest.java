@@ -250,6 +250,7 @@ public final class PromisesTest {
         CHECKS.due("the 51st, of a wrong part", x.express(3, -1, 0, 0), FULL);
         dueRun(x.state(6, 49, 0, 0));
         dueOutput(49);
+        CHECKS.due("label with 50 there", x.label(0, true), true);
 
         begin("2 express, wrong parts before weight");
         int e = constant(1);
@@ -430,6 +431,7 @@ public final class PromisesTest {
         CHECKS.due("the 41st, of a wrong part", x.state(6, -1, 0, 0), FULL);
         dueSafe("the last", 39, true);
         dueSafe("the one behind it", 40, false);
+        CHECKS.due("label with 40 there", x.label(0, true), true);
         dueRun(39);
         CHECKS.due("run(40)", x.run(40), BAD);
     }
