@@ -30,6 +30,13 @@ final class Checks {
         }
     }
 
+    void due(String call, String got, String want) {
+        made++;
+        if (!got.equals(want)) {
+            tellWrong(call + ": " + got + ", but due is: " + want);
+        }
+    }
+
     boolean anyWrong() {
         return wrong > 0;
     }
