@@ -36,6 +36,7 @@ public final class RunEdgesTest {
         asLongAsAtMost6();
         asLongAsWithReadings();
         loopsWithinLoops();
+        loopsWithinOthers();
         deepestStatements();
         leaksOfReading();
         leaksOfWriting();
@@ -503,6 +504,40 @@ public final class RunEdgesTest {
             B.due(432, B.variable(0));
             B.due(leaks, B.leaks());
         }
+    }
+
+    private static void loopsWithinOthers() {
+        B.sentence("Terms: a loop within statements 2 and 3 is executed as often as by itself");
+        int v = B.ofVariable(0);
+        int one = B.number(1);
+        int none = B.number(0);
+        int add = B.state(0, 0, B.express(3, v, one, 0), 0);
+        for (int loop : new int[] {B.state(4, 1, add, 0), B.state(4, 6, add, 0),
+            B.state(5, one, add, 0)}) {
+            int times = loop == 1 ? 1 : 6;
+            dueTimes(B.state(2, loop, add, 0), times + 1);
+            dueTimes(B.state(2, add, loop, 0), times + 1);
+            dueTimes(B.state(3, one, loop, -1), times);
+            dueTimes(B.state(3, one, loop, add), times);
+            dueTimes(B.state(3, none, add, loop), times);
+            dueTimes(B.state(3, none, loop, -1), 0);
+        }
+        B.label(0, true);
+        B.label(1, true);
+        int hidden = B.ofVariable(1);
+        for (int loop = 1; loop <= 2; loop++) {
+            B.setVariable(1, MIN);
+            dueTimes(B.state(3, hidden, loop, -1), loop == 1 ? 1 : 6);
+            B.setVariable(1, 0);
+            dueTimes(B.state(3, hidden, add, loop), loop == 1 ? 1 : 6);
+        }
+    }
+
+    /** Variable 0 counts how often 1 is added to it. */
+    private static void dueTimes(int s, int times) {
+        B.setVariable(0, MAX);
+        B.due(OK, B.run(s));
+        B.due(MAX + times, B.variable(0));
     }
 
     /** The shapes in which the most statements wait for others, at the greatest weight. */
