@@ -22,7 +22,14 @@ public final class LanguageTest {
     private static final Pattern CALL = Pattern.compile("([a-z]\\w*)\\(");
     private static final Pattern METHOD =
             Pattern.compile("(?m)^    (?:public|private)[^=;{]* ([a-z]\\w*)\\([^)]*\\) \\{$");
+    private static final Pattern CONSTANT = Pattern.compile(
+            "    (?:public|private) static final (?:int|long) ([A-Z_]+) = [-+*A-Z_0-9 ]+;");
+    private static final Pattern ARRAY = Pattern.compile(
+            "    private final (int|boolean)\\[\\] \\w+ = new \\1\\[[A-Z_]+\\];");
+    private static final Pattern LOOP = Pattern.compile(
+            "for \\(int (\\w+) = 0; \\1 < [^;]+; \\1\\+\\+\\) \\{");
     private static final Set<String> NOT_CALLS = Set.of("if", "for", "while", "switch", "return");
+    private static final int DEEPEST = 6;
     private static final Set<String> FORBIDDEN = Set.of("import", "package", "float", "double",
             "null", "throw", "throws", "try", "catch", "finally", "synchronized", "assert",
             "instanceof", "interface", "enum", "record", "protected", "var", "this", "super");
@@ -39,7 +46,9 @@ public final class LanguageTest {
         publicFace();
         fields();
         words(source);
+        constants(source);
         arrays(source);
+        loops(source);
         calls(source);
         CHECKS.end();
     }
@@ -58,6 +67,7 @@ public final class LanguageTest {
         Set<String> privateNames = new HashSet<>();
         for (Method m : type.getDeclaredMethods()) {
             CHECKS.due("rule 10, parameters of " + m.getName(), m.getParameterCount() <= 7, true);
+            CHECKS.due("rule 4, answer of " + m.getName(), m.getReturnType().isPrimitive(), true);
             if (Modifier.isPrivate(m.getModifiers())) {
                 privateNames.add(m.getName());
             } else {
@@ -85,10 +95,13 @@ public final class LanguageTest {
         int kept = 0;
         for (Field f : SecretKeeper.class.getDeclaredFields()) {
             int modifiers = f.getModifiers();
+            Class<?> type = f.getType();
             if (!Modifier.isPrivate(modifiers)) {
                 publicFields.add(f.getName());
+                CHECKS.due("modifiers of " + f.getName(), modifiers,
+                        Modifier.PUBLIC | Modifier.STATIC | Modifier.FINAL);
+                CHECKS.due("int " + f.getName(), type == int.class, true);
             }
-            Class<?> type = f.getType();
             if (Modifier.isStatic(modifiers)) {
                 CHECKS.due("final " + f.getName(), Modifier.isFinal(modifiers), true);
                 CHECKS.due("type of " + f.getName(), type == int.class || type == long.class, true);
@@ -105,35 +118,66 @@ public final class LanguageTest {
     }
 
     private static void words(String source) {
-        CHECKS.part("rules 2, 3 and 6, words");
+        CHECKS.part("rules 1, 2, 3 and 6, words");
         Set<String> constants = new HashSet<>(Set.of("SecretKeeper"));
-        Matcher constant = Pattern.compile("static final int (\\w+) =").matcher(source);
+        Matcher constant = CONSTANT.matcher(source);
         while (constant.find()) {
             constants.add(constant.group(1));
         }
         Matcher name = NAME.matcher(source);
+        int classes = 0;
+        int ownName = 0;
         while (name.find()) {
             String word = name.group();
             CHECKS.due("forbidden word " + word, FORBIDDEN.contains(word), false);
             if (Character.isUpperCase(word.charAt(0))) {
                 CHECKS.due("another class, " + word, constants.contains(word), true);
             }
+            classes += word.equals("class") ? 1 : 0;
+            ownName += word.equals("SecretKeeper") ? 1 : 0;
         }
+        CHECKS.due("classes", classes, 1);
+        CHECKS.due("its name, in the class line and the constructor's alone", ownName, 2);
+        CHECKS.due("something of an object", source.contains("."), false);
         CHECKS.due("lambda", source.contains("->"), false);
         CHECKS.due("method reference", source.contains("::"), false);
         CHECKS.due("text", source.contains("\""), false);
     }
 
-    private static void arrays(String source) {
-        CHECKS.part("rule 4, arrays");
-        Pattern made = Pattern.compile(
-                "    private final (int|boolean)\\[\\] \\w+ = new \\1\\[[A-Z_]+\\];");
+    private static void constants(String source) {
+        CHECKS.part("rule 5, static fields");
         for (String line : source.split("\n")) {
-            if (line.matches(".*\\bnew\\b.*")) {
-                CHECKS.due(line, made.matcher(line).matches(), true);
+            boolean method = METHOD.matcher(line).find();
+            if (line.matches(".*\\bstatic\\b.*") && !method) {
+                CHECKS.due(line, CONSTANT.matcher(line).matches(), true);
             }
         }
-        CHECKS.due("two dimensions", source.contains("[]["), false);
+    }
+
+    /** Arrays are fields alone here: none is a local variable, a parameter or an answer. */
+    private static void arrays(String source) {
+        CHECKS.part("rule 4, arrays");
+        for (String line : source.split("\n")) {
+            if (line.matches(".*\\bnew\\b.*") || line.contains("[]")) {
+                CHECKS.due(line, ARRAY.matcher(line).matches(), true);
+            }
+        }
+    }
+
+    /** The rule allows other loops too, but the class needs one shape only. */
+    private static void loops(String source) {
+        CHECKS.part("rule 8, loops");
+        Matcher word = Pattern.compile("\\b(for|while|do)\\b").matcher(source);
+        Matcher loop = LOOP.matcher(source);
+        while (word.find()) {
+            boolean counts = loop.find(word.start()) && loop.start() == word.start();
+            CHECKS.due("a counter against a bound", counts, true);
+            if (counts) {
+                String body = source.substring(loop.end(), source.indexOf("\n        }", loop.end()));
+                boolean changed = body.matches("(?s).*\\b" + loop.group(1) + "( [-+*]?= |\\+\\+|--).*");
+                CHECKS.due("the counter changes in the loop: " + loop.group(), changed, false);
+            }
+        }
     }
 
     private static void calls(String source) {
@@ -150,14 +194,15 @@ public final class LanguageTest {
         CHECKS.due("methods found", bodies.size(), declared);
         for (String start : bodies.keySet()) {
             int depth = depth(start, bodies, 1);
-            CHECKS.due("calls from " + start + " go " + depth + " deep", depth <= 6, true);
+            CHECKS.due("calls from " + start + " go " + depth + " deep", depth <= DEEPEST, true);
+            ownCalls(start, bodies);
             callsInArguments(start, bodies.get(start));
         }
     }
 
-    /** Recursion shows as a depth beyond the number of methods. */
+    /** Recursion shows as too great a depth, so there is no need to look any deeper. */
     private static int depth(String name, Map<String, String> bodies, int sofar) {
-        if (sofar > bodies.size()) {
+        if (sofar > DEEPEST) {
             return sofar;
         }
         int most = sofar;
@@ -168,6 +213,16 @@ public final class LanguageTest {
             }
         }
         return most;
+    }
+
+    /** Rule 3: what is called is the class's own, nothing of Object. */
+    private static void ownCalls(String name, Map<String, String> bodies) {
+        Matcher call = CALL.matcher(bodies.get(name));
+        while (call.find()) {
+            String called = call.group(1);
+            boolean own = bodies.containsKey(called) || NOT_CALLS.contains(called);
+            CHECKS.due(name + " calls " + called, own, true);
+        }
     }
 
     private static void callsInArguments(String name, String body) {
